@@ -618,12 +618,13 @@ public final class HangingChain {
         private void loadWalls(Chain chain) {
             ahead = 0;
             behind = 0;
-            if (chain.links <= 0) {
+            int links = chain.links;
+            if (links <= 0) {
                 return;
             }
-            for (int joint = 1; joint < chain.links; joint++) {
+            for (int joint = 1; joint < links; joint++) {
                 int load = loads.at(joint);
-                int toBehind = load * joint / chain.links;
+                int toBehind = load * joint / links;
                 behind += toBehind;
                 ahead += load - toBehind;
             }

@@ -11,6 +11,7 @@ public final class LooksTest {
         count(check);
         lowest(check);
         setting(check);
+        firstLooks(check);
         wrongArguments(check);
         check.end();
     }
@@ -110,6 +111,27 @@ public final class LooksTest {
         for (int k = 0; k < due.length; k++) {
             check.same("19: setting " + k, x.setting(k), due[k]);
         }
+    }
+
+    /** Each look as the first call behind a change, where nothing else was looked at. */
+    private static void firstLooks(Check check) {
+        check.same("16: force, looked at first", Check.shaped(SHAPE).linkOf(3, 1), 39);
+        check.same("17: height, looked at first", Check.shaped(SHAPE).joint(2, 0), 98);
+        check.same("17: load, looked at first", Check.shaped(SHAPE).joint(2, 7), 22);
+        check.same("18: load, looked at first", Check.shaped(SHAPE).count(2), 66);
+        check.same("5: turn, looked at first", Check.shaped("v2").turn(), 102);
+        check.same("25: evenness, looked at first", Check.shaped(SHAPE).evenness(), 28.0 / 38.0);
+        HangingChain x = Check.shaped(SHAPE);
+        x.bestStep(0);
+        check.same("17: height behind bestStep", x.joint(2, 0), 98);
+        x.mostWeight(1);
+        check.same("18: greatest force behind mostWeight", x.count(5), 39);
+        x.ifWeight(1, 99);
+        check.same("16: force behind ifWeight", x.linkOf(0, 1), 29);
+        x.bestMove(3);
+        check.same("25: evenness behind bestMove", x.evenness(), 28.0 / 38.0);
+        x.bestHanger(99);
+        check.same("17: load behind bestHanger", x.joint(3, 7), 32);
     }
 
     private static void wrongArguments(Check check) {

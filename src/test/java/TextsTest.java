@@ -8,6 +8,7 @@ public final class TextsTest {
         append(check);
         clearBuffer(check);
         firstError(check);
+        firstErrorAgain(check);
         eachCharacter(check);
         fullBuffer(check);
         shape(check);
@@ -79,6 +80,22 @@ public final class TextsTest {
         errorAt(check, links20 + "2", links20.length());
         errorAt(check, links20 + "[7]v", links20.length() + 3);
         errorAt(check, "=====================", 20);
+    }
+
+    /** What was read before must not count. */
+    private static void firstErrorAgain(Check check) {
+        HangingChain x = Check.typed("v[");
+        check.same("13: firstError", x.firstError(), 2);
+        check.same("13: firstError again", x.firstError(), 2);
+        x.append('5');
+        check.same("13: firstError behind a digit", x.firstError(), 3);
+        x.append(']');
+        x.shape();
+        Check.type(x, "[5]");
+        check.same("13: firstError behind a shape", x.firstError(), 0);
+        check.refuses("14: shape behind a shape", x, ARGUMENT, x::shape);
+        x.clearBuffer();
+        check.refuses("14: shape of nothing behind a shape", x, ARGUMENT, x::shape);
     }
 
     /** Behind each of these, just these characters are right. */

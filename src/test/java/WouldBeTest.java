@@ -42,8 +42,9 @@ public final class WouldBeTest {
         x.set(3, 999);
         check.same("21: 99", x.mostWeight(2), 99);
         HangingChain none = Check.shaped("=[50]=");
-        none.set(0, 0);
         none.set(3, 1);
+        check.same("21: just 0", none.mostWeight(1), 0);
+        none.set(0, 0);
         check.same("21: two", none.mostWeight(1), 2);
         none.hanger(1, 40);
         check.same("21: two above the hanger", none.mostWeight(1), 42);
@@ -92,6 +93,12 @@ public final class WouldBeTest {
         check.same("24: down by one is enough", x.bestStep(0), 1);
         HangingChain up = Check.shaped("^2[50]=[50]=");
         check.same("24: another link is the greatest", up.bestStep(2), 0);
+        HangingChain relieved = Check.shaped("=[30]^[15]v2[15]=");
+        relieved.set(0, 0);
+        relieved.set(1, -1);
+        relieved.set(2, 18);
+        relieved.prop(3, 99);
+        check.same("24: up by two, off a prop", relieved.bestStep(1), 4);
     }
 
     private static void evenness(Check check) {
