@@ -1,7 +1,9 @@
 /** Runs of calls, the same ones in each run of this test, compared with the model. */
 public final class ModelTest {
-    private static final int RUNS = 60;
-    private static final int CALLS = 120;
+    private static final int RUNS = 100;
+    private static final int MOST_CALLS = 512;
+    /** No change and no comparison together make more calls than this. */
+    private static final int MOST_AT_ONCE = 60;
     private static final String CODES = "==^^vv22[[]]123450";
 
     private final Check check = new Check();
@@ -9,6 +11,7 @@ public final class ModelTest {
     private HangingChain x;
     private Model model;
     private int run;
+    private int calls;
 
     public static void main(String[] args) {
         ModelTest test = new ModelTest();
@@ -28,18 +31,33 @@ public final class ModelTest {
         seed = 1000003L * (run + 1);
         x = new HangingChain();
         model = new Model();
-        for (int call = 0; call < CALLS && check.wrong() == 0; call++) {
+        calls = 0;
+        for (int k = 0; calls + MOST_AT_ONCE <= MOST_CALLS && check.wrong() == 0; k++) {
             change();
-            if (call % 12 == 0) {
-                compareDigest();
-            } else {
+            if (k % 8 == 7) {
                 compareLooks();
+            } else if (k % 8 == 3) {
+                same("digest", x.digest(), digest());
+            } else {
+                same("count 5", x.count(5), model.count(5));
+                same("count 9", x.count(9), model.count(9));
+                same("count 10", x.count(10), model.count(10));
             }
+        }
+        if (calls > MOST_CALLS) {
+            check.tell("run " + run + " has more calls than an object is used for");
         }
     }
 
     private void same(String call, long got, long due) {
+        calls++;
         check.same("run " + run + ": " + call, got, due);
+    }
+
+    private void refuses(String call, Class<? extends Exception> due, Runnable work) {
+        // The digests ahead of it and behind it are calls, too.
+        calls += 3;
+        check.refuses("run " + run + ": " + call, x, due, work);
     }
 
     private void change() {
@@ -89,7 +107,7 @@ public final class ModelTest {
             model.save();
             same("link", x.link(step), model.link(step));
         } else {
-            check.refuses("link", x, IllegalStateException.class, () -> x.link(0));
+            refuses("link", IllegalStateException.class, () -> x.link(0));
         }
     }
 
@@ -98,7 +116,7 @@ public final class ModelTest {
             model.save();
             same("cut", x.cut(link), model.cut(link));
         } else {
-            check.refuses("cut", x, IllegalStateException.class, () -> x.cut(link));
+            refuses("cut", IllegalStateException.class, () -> x.cut(link));
         }
     }
 
@@ -127,7 +145,7 @@ public final class ModelTest {
 
     private void move(int joint, int to) {
         if (joint == to) {
-            check.refuses("move", x, IllegalArgumentException.class, () -> x.move(joint, to));
+            refuses("move", IllegalArgumentException.class, () -> x.move(joint, to));
         } else {
             model.save();
             same("move", x.move(joint, to), model.move(joint, to));
@@ -145,7 +163,7 @@ public final class ModelTest {
 
     private void undo() {
         if (model.saved() == 0) {
-            check.refuses("undo", x, IllegalStateException.class, x::undo);
+            refuses("undo", IllegalStateException.class, x::undo);
         }
         for (int k = any(1, 6); k > 0 && model.saved() > 0; k--) {
             same("undo", x.undo(), model.undo());
@@ -171,15 +189,11 @@ public final class ModelTest {
         }
         same("firstError of " + model.buffer, x.firstError(), model.firstError());
         if (!model.isShape()) {
-            check.refuses("shape of " + model.buffer, x, IllegalArgumentException.class, x::shape);
+            refuses("shape of " + model.buffer, IllegalArgumentException.class, x::shape);
         } else if (any(0, 1) == 0) {
             model.save();
             same("shape", x.shape(), model.shape());
         }
-    }
-
-    private void compareDigest() {
-        same("digest", x.digest(), digest());
     }
 
     private void compareLooks() {
@@ -200,6 +214,7 @@ public final class ModelTest {
         same("bestStep", x.bestStep(link), model.bestStep(link));
         same("bestMove", x.bestMove(joint), model.bestMove(joint));
         same("mostWeight", x.mostWeight(joint), model.mostWeight(joint));
+        calls++;
         check.same("run " + run + ": evenness", x.evenness(), model.evenness());
     }
 
