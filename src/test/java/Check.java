@@ -132,7 +132,8 @@ final class Check {
 
     static String steps(HangingChain x) {
         StringBuilder told = new StringBuilder();
-        for (int k = 0; k < x.count(0); k++) {
+        int links = x.count(0);
+        for (int k = 0; k < links; k++) {
             told.append(x.linkOf(k, 0) - 2).append(' ');
         }
         return told.toString().trim();
@@ -141,7 +142,8 @@ final class Check {
     /** One number of each joint, from the joint 0 on. */
     static String joints(HangingChain x, int what) {
         StringBuilder told = new StringBuilder();
-        for (int k = 0; k <= x.count(0); k++) {
+        int links = x.count(0);
+        for (int k = 0; k <= links; k++) {
             told.append(x.joint(k, what)).append(' ');
         }
         return told.toString().trim();
@@ -154,7 +156,8 @@ final class Check {
     /** One number of each link, from the link 0 on. */
     static String links(HangingChain x, int what) {
         StringBuilder told = new StringBuilder();
-        for (int k = 0; k < x.count(0); k++) {
+        int links = x.count(0);
+        for (int k = 0; k < links; k++) {
             told.append(x.linkOf(k, what)).append(' ');
         }
         return told.toString().trim();
